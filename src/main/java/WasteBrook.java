@@ -24,6 +24,8 @@ public final class WasteBrook {
     private static final int WRONG_NAME = 3;
     private static final int TOO_MANY = 4;
 
+    /** Far above what two numbers of 63 bits need. */
+    private static final int MOST_DIVISIONS = 200;
     private static final int[] FACTORIALS = {1, 1, 2, 6, 24, 120, 720, 5040, 40320};
 
     private final Tape tape;
@@ -429,7 +431,7 @@ public final class WasteBrook {
     private static long commonDivisor(long a, long b) {
         long larger = a;
         long divisor = b;
-        for (int i = 0; i < Long.SIZE * 2 && divisor > 0 && larger % divisor != 0; i++) {
+        for (int i = 0; i < MOST_DIVISIONS && divisor > 0 && larger % divisor != 0; i++) {
             long rest = larger % divisor;
             larger = divisor;
             divisor = rest;
@@ -874,23 +876,20 @@ public final class WasteBrook {
             if (i >= length) {
                 kind = END;
                 next = length;
-            } else if (isLetter(bytes[i]) || isDigit(bytes[i])) {
-                readWordOrNumber(i);
             } else {
-                kind = isSign(bytes[i]) ? SIGN : BAD;
-                value = bytes[i];
-                next = i + 1;
+                readToken();
             }
         }
 
-        private void readWordOrNumber(int from) {
+        /** Reads on as long as small letters and digits do; where there are none, one sign. */
+        private void readToken() {
             int letters = 0;
             int digits = 0;
             int word = 0;
             int amount = 0;
-            int i = from;
-            while (i < length && (isLetter(bytes[i]) || isDigit(bytes[i]))) {
-                if (isLetter(bytes[i])) {
+            int i = start;
+            while (i < length && (bytes[i] >= 'a' && bytes[i] <= 'z' || bytes[i] >= '0' && bytes[i] <= '9')) {
+                if (bytes[i] >= 'a') {
                     word = word << LETTER_BITS | bytes[i] - BEFORE_A;
                     letters++;
                 } else {
@@ -899,41 +898,24 @@ public final class WasteBrook {
                 }
                 i++;
             }
-            next = i;
             kind = BAD;
-            if (digits == 0 && letters <= Keyword.WIDTH) {
+            next = i;
+            if (letters + digits == 0) {
+                kind = SIGN;
+                value = bytes[start];
+                next = start + 1;
+            } else if (digits == 0 && letters <= Keyword.WIDTH) {
                 kind = WORD;
                 value = word;
-                keyword = keywordOf(word);
             } else if (letters == 0 && digits <= NUMBER_DIGITS) {
                 kind = NUMBER;
                 value = amount;
             }
-        }
-
-        private int keywordOf(int word) {
-            for (int i = 0; i < Keyword.MANY; i++) {
-                if (keywords[i] == word) {
-                    return i;
+            for (int k = 0; k < Keyword.MANY && kind == WORD; k++) {
+                if (keywords[k] == word) {
+                    keyword = k;
                 }
             }
-            return NONE;
-        }
-
-        private static boolean isLetter(int c) {
-            return c >= 'a' && c <= 'z';
-        }
-
-        private static boolean isDigit(int c) {
-            return c >= '0' && c <= '9';
-        }
-
-        private static boolean isSign(int c) {
-            return c == ';' || c == '(' || c == ')' || isComparison(c);
-        }
-
-        private static boolean isComparison(int c) {
-            return c == '<' || c == '=' || c == '>';
         }
 
         boolean fail(int faultOf) {
@@ -951,7 +933,7 @@ public final class WasteBrook {
         }
 
         boolean isComparing() {
-            return kind == SIGN && isComparison(value);
+            return kind == SIGN && (value == '<' || value == '=' || value == '>');
         }
 
         boolean takeSign(char sign) {
@@ -1156,11 +1138,10 @@ public final class WasteBrook {
         }
 
         private boolean readTakes(Tape tape) {
-            int cell = takeNewCell(tape, takes);
-            if (cell == NONE || !tape.takeNumber(1, LARGEST_AMOUNT)) {
+            int cell = takeCell(tape);
+            if (cell == NONE || !readNew(tape, takes, cell)) {
                 return false;
             }
-            takes[cell] = tape.number;
             if (!tape.takeNumber(takes[cell], LARGEST)) {
                 return false;
             }
@@ -1173,8 +1154,17 @@ public final class WasteBrook {
         }
 
         private boolean readAmount(Tape tape, int[] amounts) {
-            int cell = takeNewCell(tape, amounts);
-            if (cell == NONE || !tape.takeNumber(1, LARGEST_AMOUNT)) {
+            int cell = takeCell(tape);
+            return cell != NONE && readNew(tape, amounts, cell);
+        }
+
+        /** At a GOOD of which these amounts may tell nothing yet. */
+        private boolean readNew(Tape tape, int[] amounts, int cell) {
+            if (amounts[cell] > 0) {
+                return tape.fail(WRONG_NAME);
+            }
+            tape.advance();
+            if (!tape.takeNumber(1, LARGEST_AMOUNT)) {
                 return false;
             }
             amounts[cell] = tape.number;
@@ -1207,20 +1197,9 @@ public final class WasteBrook {
             return true;
         }
 
-        /** Behind a LINE's first WORD a WORK and a GOOD of which these amounts tell nothing yet. */
-        private int takeNewCell(Tape tape, int[] amounts) {
-            tape.advance();
-            int cell = takeCell(tape);
-            if (cell != NONE && amounts[cell] > 0) {
-                tape.fail(WRONG_NAME);
-                return NONE;
-            }
-            tape.advance();
-            return cell;
-        }
-
-        /** A WORK, taken, and a GOOD, found only, so that a FAULT may still be told at it. */
+        /** Behind a LINE's first WORD a WORK, taken, and a GOOD, found only: a FAULT may be told at it. */
         int takeCell(Tape tape) {
+            tape.advance();
             int w = findWork(tape);
             if (w == NONE) {
                 return NONE;
@@ -1329,11 +1308,11 @@ public final class WasteBrook {
                 return tape.fail(TOO_MANY);
             }
             keywords[lines] = tape.keyword;
-            tape.advance();
             return keywords[lines] == Keyword.STOPS ? readStop(tape, brook) : readBring(tape, brook);
         }
 
         private boolean readStop(Tape tape, Brook brook) {
+            tape.advance();
             works[lines] = brook.findWork(tape);
             if (works[lines] == NONE) {
                 return false;

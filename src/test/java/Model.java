@@ -615,6 +615,20 @@ final class Model {
         return true;
     }
 
+    /** NAMES as they are now; a vat as its WORK and its GOOD. */
+    void tellNames(List<String> goods, List<String> works, List<String> vats) {
+        goods.clear();
+        works.clear();
+        vats.clear();
+        goods.addAll(spec.goods);
+        works.addAll(spec.names);
+        for (int w = 0; w < works.size(); w++) {
+            for (int g : spec.works.get(w).takes.keySet()) {
+                vats.add(works.get(w) + " " + goods.get(g));
+            }
+        }
+    }
+
     private String takeTape() {
         String t = tape;
         tape = "";
