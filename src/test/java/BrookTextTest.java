@@ -15,6 +15,7 @@ public final class BrookTextTest {
         tooMany();
         cutShort();
         theMostBytes();
+        whatWasCutOff();
         aFaultChangesNothing();
         aNewBrookHasNothing();
         CHECK.close("BrookTextTest");
@@ -212,6 +213,24 @@ public final class BrookTextTest {
         fault("good" + " ".repeat(890), 894, 1);
     }
 
+    /** Bytes that end() took away are no part of the text. */
+    private static void whatWasCutOff() {
+        WasteBrook x = new WasteBrook();
+        Check.put(x, "good     ;;;;");
+        x.end(5);
+        CHECK.eq("the end of what is left", x.brook(), -6);
+        Check.put(x, "joined;;;;;;");
+        x.end(7);
+        CHECK.eq("one LINE", x.brook(), 1);
+        CHECK.eq("no FAULT any more", x.fault(), 0);
+        Check.put(x, "goodabc");
+        x.end(4);
+        CHECK.eq("a WORD that was cut", x.brook(), -5);
+        CHECK.eq("its FAULT", x.fault(), 1);
+        CHECK.eq("an empty PLAN", x.plan(), 0);
+        CHECK.eq("has none", x.fault(), 0);
+    }
+
     private static void aFaultChangesNothing() {
         WasteBrook x = Check.of(FIVE + "gives q a 2;joined;");
         Check.plan(x, "stops p 0 1;");
@@ -240,6 +259,10 @@ public final class BrookTextTest {
         CHECK.eq("no PLAN", x.count(6), 0);
         CHECK.eq("not joined", x.count(5), 0);
         CHECK.eq("no vats", x.count(2), 0);
+        int[] at = {0, 0, 0, 1, 0};
+        for (int what = 0; what < 5; what++) {
+            CHECK.eq("at(0, 0, " + what + ")", x.at(0, 0, what), at[what]);
+        }
         CHECK.eq("0 11 without", x.work(0, 0) * 100 + x.work(0, 1), 11);
         x.begin();
         CHECK.eq("no SENTENCE", x.said(-1), -1);

@@ -51,6 +51,10 @@ public final class FreeRunTest {
         CHECK.eq("in that DAY", late.goes(1, 8), 128);
         WasteBrook tooLate = Check.of("good w 0;work a 7 7;gives a w 1;work c;takes c w 1 9 0;work b;takes b w 9 99 0;");
         CHECK.eq("nothing comes to b", tooLate.order(2), -1);
+        // c's vat, which is never used, takes the first eight; b's ninth is the 17th of all
+        String last = "good w 0;good v 0;work a 7 7;gives a w 1;work c;takes c w 1 8 0;takes c v 1 1 0;work b;takes b w 9 9 0;";
+        CHECK.eq("in HOUR 199", Check.of(last).order(1), 2);
+        CHECK.eq("in HOUR 200 it is too late", Check.of(last.replace("7 7", "8 8")).order(1), -1);
         Check.plan(x, "stops e 0 199;");
         CHECK.eq("no PLAN counts", x.order(0), 4);
         CHECK.eq("an empty BROOK", new WasteBrook().order(0), -1);
@@ -75,6 +79,8 @@ public final class FreeRunTest {
         // it fills by one a DAY up to 99: not full ahead of HOUR 200
         again("good w 0;work a 0 0;gives a w 1;work b 11 11;takes b w 9 99 8;work c;takes c w 1 99 0;", 0, 108);
         again("good w 0;work a 0 0;gives a w 1;work b;takes b w 1 5 1;takes b v 1 1 0;".replace("good w 0;", "good w 0;good v 0;"), 36, 12);
+        // 1 a HOUR, 5 taken: sixty HOURS till the hour of the DAY is the same, too
+        again("good w 0;work a;takes a w 5 9 0;feeds a w 1;", 0, 60);
         // what is on its way to the top counts, and grows for ever
         again("good w 0;work a 0 0;gives a w 1;joined;", -1, -1);
         // lost on its way to the top

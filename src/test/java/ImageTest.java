@@ -1,7 +1,7 @@
 /** Promises 43 and 44: what is kept, and what is not. */
 public final class ImageTest {
     private static final Check CHECK = new Check();
-    private static final String BROOK = "good w 1;work a;gives a w 5;makes a 2;work b;takes b w 3 6 0;makes b 7;feeds b w 1;joined;";
+    private static final String BROOK = "good w 1;work a;gives a w 5;makes a 2;work b;takes b w 3 6 0;makes b 7;feeds b w 1;good v 0;work c;takes c v 1 1 0;joined;";
 
     private ImageTest() {
     }
@@ -12,6 +12,7 @@ public final class ImageTest {
         theRestStays();
         imagesAreApart();
         anEmptyOne();
+        marksAreKept();
         CHECK.close("ImageTest");
     }
 
@@ -87,7 +88,7 @@ public final class ImageTest {
         x.on(9);
         x.restore(1);
         same("restore(1) of another BROOK", all(x), kept);
-        CHECK.eq("the NAMES, too", x.write(), "a 5 10;b 6 42;".length());
+        CHECK.eq("the NAMES, too", x.write(), "a 5 10;b 6 42;c 0 0;".length());
         CHECK.eq("a", x.byteAt(0), 'a');
         CHECK.eq("b", x.byteAt(7), 'b');
         CHECK.eq("a SENTENCE of them", Check.sentence(x, "finds a and wants w"), 2);
@@ -135,6 +136,40 @@ public final class ImageTest {
         same("place 1 is as it was", all(x), second);
         x.restore(0);
         same("place 0 is new", all(x), third);
+    }
+
+    /** In vats and on the way to the top: a gives in HOUR 0 what it has itself in HOUR 1. */
+    private static void marksAreKept() {
+        WasteBrook x = Check.of("good p 0;good q 0;work a 0 0;gives a p 1;gives a q 1;work b 2 2;takes b q 1 3 0;work c 1 1;takes c p 1 1 0;feeds c p 1;joined;");
+        x.begin();
+        x.image(0);
+        x.on(1);
+        x.image(1);
+        x.restore(0);
+        Check.plan(x, "stops a 0 199;brings b q 1 0;");
+        x.on(3);
+        CHECK.eq("no marks were kept in 0: b", x.went(1, 3), 0);
+        CHECK.eq("c", x.went(2, 3), 0);
+        CHECK.eq("nor where it came from", x.comes(2, 0) + x.comes(1, 1), 0);
+        x.restore(1);
+        CHECK.eq("LACKS", x.lacks(1, 1), 0);
+        x.on(2);
+        CHECK.eq("a's were in 1: b", x.went(1, 3), 1);
+        CHECK.eq("c", x.went(2, 3), 1);
+        CHECK.eq("and that it came from a", x.comes(1, 1), 1);
+        WasteBrook y = Check.of("good p 0;work c 1 1;takes c p 1 1 0;work a 0 0;gives a p 1;joined;");
+        y.image(0);
+        y.begin();
+        y.on(1);
+        y.image(1);
+        y.restore(0);
+        y.begin();
+        Check.plan(y, "stops a 0 199;");
+        y.on(1);
+        y.restore(1);
+        y.on(1);
+        CHECK.eq("a's was on its way", y.went(0, 3), 2);
+        CHECK.eq("and came", y.comes(0, 0), 2);
     }
 
     private static void anEmptyOne() {

@@ -38,11 +38,14 @@ public final class OtherwiseTest {
         CHECK.eq("0 HOURS", x.kindle(7, 0), -2);
         CHECK.eq("a set too large", x.kindle(8, 1), -2);
         CHECK.eq("below 0", x.kindle(-1, 1), -2);
-        WasteBrook like = Check.of("good p 0;work a;takes a p 2 2 0;gives a p 1;work b;takes b p 1 1 0;work c;takes c p 1 1 0;gives c p 1;joined;");
-        CHECK.eq("b by c's, in two", like.kindle(2, 2), 1);
-        CHECK.eq("of like ones the least set", like.kindled(), 2);
-        CHECK.eq("b and c", like.kindle(6, 2), 2);
-        CHECK.eq("a gives but one of its two; b and c have one each", like.kindled(), 6);
+        WasteBrook like = Check.of("good p 0;work b;takes b p 1 1 0;work c;takes c p 1 1 0;gives c p 1;joined;");
+        CHECK.eq("b by its own or, in two, by c's", like.kindle(1, 2), 1);
+        CHECK.eq("of like ones the least set", like.kindled(), 1);
+        CHECK.eq("c and b", like.kindle(3, 2), 1);
+        CHECK.eq("by c's alone", like.kindled(), 2);
+        WasteBrook nothing = Check.of("good p 0;work a;gives a p 1;work b;takes b p 1 1 0;");
+        CHECK.eq("who takes nothing is brought nothing", nothing.kindle(3, 1), 0);
+        CHECK.eq("nobody", nothing.kindled(), 0);
         WasteBrook fed = Check.of("good p 0;work a 5 5;takes a p 3 3 0;feeds a p 1;work b;takes b p 1 1 1;");
         CHECK.eq("by what is fed", fed.kindle(1, 6), 0);
         CHECK.eq("its hour is not yet", fed.kindle(1, 5), -1);
@@ -73,6 +76,8 @@ public final class OtherwiseTest {
         CHECK.eq("100 more", x.wider(100, 12), -1);
         CHECK.eq("0 HOURS", x.wider(1, 0), -1);
         CHECK.eq("201 HOURS", x.wider(1, 201), -1);
+        WasteBrook alike = Check.of("good p 0;good q 0;work a 0 0;gives a p 6;gives a q 6;work b;takes b p 1 2 0;makes b 4;work c;takes c q 1 2 0;makes c 4;");
+        CHECK.eq("one vat alone, of like ones the first", alike.wider(1, 12), 10);
         CHECK.eq("no vats", Check.of("good p 0;work a;").wider(1, 1), -1);
         WasteBrook like = Check.of("good p 0;good q 0;work a;takes a q 1 1 0;takes a p 1 1 0;");
         CHECK.eq("of like ones the lesser GOOD", like.wider(1, 10), 0);
@@ -109,6 +114,10 @@ public final class OtherwiseTest {
         CHECK.eq("a comes nearer by b's place, so does c", near.exchanged(3), 0);
         WasteBrook has = Check.of("good p 0;work a 0 0;gives a p 3;work b;takes b p 1 3 2;makes b 2;work c;takes c p 1 2 0;makes c 7;");
         CHECK.eq("c ahead of b", has.exchanged(12), 1);
+        WasteBrook hours = Check.of("good p 0;work c;work b 11 11;takes b p 1 9 0;makes b 5;work a 0 0;gives a p 1;");
+        CHECK.eq("each with its hours", hours.exchanged(12), 1);
+        WasteBrook had = Check.of("good p 0;work b;takes b p 1 2 2;makes b 5;work c;work d;");
+        CHECK.eq("with what it has", had.exchanged(12), 0);
         CHECK.eq("0 HOURS", y.exchanged(0), -1);
         CHECK.eq("201 HOURS", y.exchanged(201), -1);
         CHECK.eq("one WORK", Check.of("work a;").exchanged(5), -1);
@@ -140,6 +149,10 @@ public final class OtherwiseTest {
         WasteBrook x = Check.of("good p 0;work a 0 0;gives a p 6;work b;takes b p 1 9 9;makes b 1;");
         // with a rest on DAY d: 9 are had; of each DAY's 6 all are used but on the first, where 3 are left over
         CHECK.eq("when the vat can take what is not used", x.rest(), restByHand(x));
+        // 2 used and 1 fed a HOUR: a full vat can't keep what is fed on DAY 0, and DAY 6 is not made good
+        WasteBrook full = Check.of("good p 0;work a;feeds a p 1;takes a p 2 24 24;makes a 1;work b;");
+        CHECK.eq("on DAY 1 there is room", full.rest(), 1);
+        CHECK.eq("by PLANS, too", restByHand(full), 1);
         // all is used on DAY 0; then nothing is made, whoever rests
         WasteBrook y = Check.of("good p 0;work b 0 2;takes b p 1 3 3;makes b 1;work c 3 11;takes c p 1 9 9;makes c 2;");
         CHECK.eq("any day: the first", y.rest(), 0);
@@ -186,5 +199,29 @@ public final class OtherwiseTest {
         CHECK.eq("fed", x.at(0, 0, 4), 1);
         CHECK.eq("HAS", x.at(1, 1, 2), 5);
         CHECK.eq("none is fed to b", x.at(1, 0, 4), 0);
+        WasteBrook y = Check.of("good p 0;work c;work b 0 5;takes b p 1 2 0;makes b 5;work a 0 0;gives a p 3;makes a 2;feeds a p 1;");
+        int[] first = asked(y);
+        CHECK.eq("wider", first[0], 10);
+        CHECK.eq("longer", first[1], 2);
+        CHECK.eq("exchanged", first[2], 1);
+        CHECK.eq("fed", first[3], 10);
+        Check.brook(y, "good p 9;work z;takes z p 9 99 99;makes z 99;work y;?");
+        for (int i = 0; i < first.length; i++) {
+            CHECK.eq("a BROOK with a FAULT changes nothing of it: " + i, asked(y)[i], first[i]);
+        }
+    }
+
+    private static int[] asked(WasteBrook y) {
+        int[] all = new int[5];
+        all[0] = y.wider(3, 24);
+        Check.brook(y, "good p 9;work z;takes z p 9 99 99;makes z 99;work y;?");
+        all[1] = y.longer(2, 24);
+        Check.brook(y, "good p 9;work z;takes z p 9 99 99;makes z 99;work y;?");
+        all[2] = y.exchanged(24);
+        Check.brook(y, "good p 9;work z;takes z p 9 99 99;makes z 99;work y;?");
+        all[3] = y.fed(2);
+        Check.brook(y, "good p 9;work z;takes z p 9 99 99;makes z 99;work y;?");
+        all[4] = y.dry(2, 0, 24);
+        return all;
     }
 }

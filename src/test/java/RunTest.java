@@ -16,6 +16,8 @@ public final class RunTest {
         theRing();
         fedAndLost();
         found();
+        foundSoFar();
+        beginIsAnew();
         marksGoWhenEmpty();
         comesIsAsGiven();
         lacking();
@@ -172,6 +174,40 @@ public final class RunTest {
         CHECK.eq("b found a", x.went(1, 3), 1);
         CHECK.eq("c found a in what b gave", x.went(2, 3), 3);
         CHECK.eq("c was given by b alone", x.comes(2, 1), 2);
+        CHECK.eq("what is left of it", x.vat(2, 1), 1);
+    }
+
+    private static void foundSoFar() {
+        WasteBrook x = Check.of("good p 0;work a 0 0;gives a p 1;work b 1 1;gives b p 1;work c;takes c p 1 1 0;");
+        x.begin();
+        x.on(1);
+        CHECK.eq("a in the first HOUR", x.went(2, 3) * 10 + x.comes(2, 0), 11);
+        x.on(1);
+        CHECK.eq("and b in the second", x.went(2, 3) * 10 + x.comes(2, 0), 33);
+        x.on(5);
+        CHECK.eq("so far", x.went(2, 3) * 10 + x.comes(2, 0), 33);
+    }
+
+    /** No mark of the RUN ahead is left: not in vats, not on the way, not in what is told. */
+    private static void beginIsAnew() {
+        WasteBrook x = Check.of("good p 0;good q 0;work a 0 0;gives a p 2;work b 1 11;takes b p 1 3 1;work d;takes d q 1 1 0;work e 0 0;gives e q 1;feeds d q 1;joined;");
+        x.begin();
+        x.on(13);
+        CHECK.eq("b found a", x.went(1, 3), 1);
+        CHECK.eq("d found e", x.went(2, 3), 8);
+        CHECK.eq("b lacks", x.lacks(1, 0), 8);
+        CHECK.eq("q is on its way", x.parts(1, 7), 2);
+        x.begin();
+        CHECK.eq("found by b", x.went(1, 3), 0);
+        CHECK.eq("came to b", x.comes(1, 0), 0);
+        CHECK.eq("b lacks nothing yet", x.lacks(1, 0), 0);
+        Check.plan(x, "stops a 0 199;stops e 0 199;");
+        x.on(2);
+        CHECK.eq("b used what it had", x.went(1, 0), 1);
+        CHECK.eq("in which none is found", x.went(1, 3), 0);
+        CHECK.eq("d used what was fed", x.went(2, 0), 2);
+        CHECK.eq("in which none is found, either", x.went(2, 3), 0);
+        CHECK.eq("it came from none", x.comes(2, 1), 0);
     }
 
     /** a gives in hour 0 only; what c has from it is used up before b's comes. */

@@ -48,6 +48,16 @@ public final class SentenceTest {
         Check.brook(x, "work z;");
         x.begin();
         text(x, "z 0 0;");
+        StringBuilder long8 = new StringBuilder();
+        StringBuilder text8 = new StringBuilder();
+        for (char c = 'a'; c < 'i'; c++) {
+            long8.append("work zyxwv").append(c).append(";makes zyxwv").append(c).append(" 99;");
+            text8.append("zyxwv").append(c).append(" 200 19800;");
+        }
+        Check.brook(x, long8.toString());
+        x.begin();
+        x.on(200);
+        text(x, text8.toString());
     }
 
     private static void said(String sentence, int ones, int... works) {
@@ -120,6 +130,11 @@ public final class SentenceTest {
         CHECK.eq("k 4", x.said(4), -1);
         x.on(1);
         CHECK.eq("by the RUN now", x.said(-1), 2);
+        for (int i = 0; i < 4; i++) {
+            CHECK.eq("another", Check.sentence(x, "place=" + i + " or wants w and wants v".repeat(8)), 17);
+            CHECK.eq("is said instead", x.said(0), i);
+        }
+        Check.sentence(x, "went=0");
         CHECK.eq("a FAULT", Check.sentence(x, "went=0 or"), -10);
         CHECK.eq("it stays", x.said(0), 2);
         Check.brook(x, BROOK);

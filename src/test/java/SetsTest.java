@@ -41,6 +41,9 @@ public final class SetsTest {
         x.begin();
         x.on(20);
         CHECK.eq("but in the RUN", x.made(), 0);
+        WasteBrook once = Check.of("good w 0;work b;takes b w 1 99 20;makes b 3;");
+        CHECK.eq("what is had lasts for twenty HOURS", once.by(1, 200), 60);
+        CHECK.eq("19 of them", once.by(1, 19), 57);
         WasteBrook y = Check.of("good w 0;work a 3 8;gives a w 4;makes a 2;work b 2 9;takes b w 3 50 7;makes b 4;work c;takes c w 1 9 9;makes c 1;");
         y.begin();
         for (int n = 1; n <= 200; n++) {
@@ -137,6 +140,11 @@ public final class SetsTest {
         CHECK.eq("just so", kept(x, 10, 10, 30, 45), -1);
         CHECK.eq("all alike", kept(x, 10, 65535, 0, 0), -1);
         CHECK.eq("the least set", kept(x, 10, 0, 0, 0), 1);
+        WasteBrook one = Check.of("work a;makes a 2;");
+        CHECK.eq("258 by 258", kept(one, 129, 258), -1);
+        CHECK.eq("258 by 257", kept(one, 129, 257), 1);
+        CHECK.eq("258 by 256", kept(one, 129, 256), 1);
+        CHECK.eq("258 by 255", kept(one, 129, 255), 1);
         CHECK.eq("too few", kept(x, 10, 1, 1), -2);
         CHECK.eq("the tape is empty then, too", x.count(7), 0);
         CHECK.eq("too many", kept(x, 10, 1, 1, 1, 1), -2);
@@ -201,6 +209,8 @@ public final class SetsTest {
         CHECK.eq("without b", x.falls(1), 4);
         CHECK.eq("without c: d comes, none falls", x.falls(2), 0);
         CHECK.eq("d is not of it", x.falls(3), -1);
+        WasteBrook free = Check.of("work a;work b;work c;");
+        CHECK.eq("nobody falls with who is not needed", free.falls(0) + free.falls(1) + free.falls(2), 0);
         CHECK.eq("WORK 4", x.falls(4), -1);
         CHECK.eq("WORK -1", x.falls(-1), -1);
     }
