@@ -533,7 +533,7 @@ public final class WasteBrook {
             return 0;
         }
         otherBrook.copyFrom(brook);
-        int first = Integer.numberOfTrailingZeros(set) * GOODS;
+        int first = firstOf(set) * GOODS;
         for (int n = 1; n <= LARGEST; n++) {
             for (int g = 0; g < brook.goods; g++) {
                 otherBrook.feeds[first + g] = brook.feeds[first + g] + n;
@@ -545,6 +545,15 @@ public final class WasteBrook {
             }
         }
         return NONE;
+    }
+
+    private static int firstOf(int set) {
+        for (int w = 0; w < WORKS; w++) {
+            if ((set >> w & 1) == 1) {
+                return w;
+            }
+        }
+        return 0;
     }
 
     // ---- KINDLED

@@ -105,13 +105,6 @@ public final class FaultModelTest {
 
     private static void tell(WasteBrook x, Model m, String text) {
         Check.put(x, text);
-        for (int i = 0; i < text.length(); i += 20) {
-            int[] n = new int[5];
-            for (int j = 0; j < 20; j++) {
-                n[j / 4] = n[j / 4] << 8 | (i + j < text.length() ? text.charAt(i + j) : 0);
-            }
-            m.feed(n);
-        }
-        m.end(text.length());
+        m.put(text);
     }
 }

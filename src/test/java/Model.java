@@ -607,6 +607,19 @@ final class Model {
         return tape.length();
     }
 
+    /** As Check.put does on the class's tape. */
+    void put(String told) {
+        int had = tape.length();
+        for (int i = 0; i < told.length(); i += 20) {
+            int[] n = new int[5];
+            for (int j = 0; j < 20; j++) {
+                n[j / 4] = n[j / 4] << 8 | (i + j < told.length() ? told.charAt(i + j) : 0);
+            }
+            feed(n);
+        }
+        end(had + told.length());
+    }
+
     boolean end(int n) {
         if (n < 0 || n > tape.length()) {
             return false;

@@ -114,14 +114,7 @@ public final class ModelTest {
         x.end(0);
         m.end(0);
         Check.put(x, text);
-        for (int i = 0; i < text.length(); i += 20) {
-            int[] n = new int[5];
-            for (int j = 0; j < 20; j++) {
-                n[j / 4] = n[j / 4] << 8 | (i + j < text.length() ? text.charAt(i + j) : 0);
-            }
-            m.feed(n);
-        }
-        m.end(text.length());
+        m.put(text);
     }
 
     private String newName() {
