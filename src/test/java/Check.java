@@ -20,6 +20,14 @@ final class Check {
         }
     }
 
+    void same(String what, String got, String want) {
+        asked++;
+        if (!got.equals(want)) {
+            wrong++;
+            System.out.println(what + ": answered\n" + got + "\ndue is\n" + want);
+        }
+    }
+
     void yes(String what, boolean got) {
         eq(what, got ? 1 : 0, 1);
     }

@@ -65,13 +65,6 @@ public final class ImageTest {
         return x;
     }
 
-    private static void same(String what, String got, String want) {
-        if (!got.equals(want)) {
-            System.out.println(got + "\n" + want);
-        }
-        CHECK.yes(what, got.equals(want));
-    }
-
     private static void allComesBack() {
         WasteBrook x = filled();
         String kept = all(x);
@@ -80,14 +73,14 @@ public final class ImageTest {
         String later = all(x);
         CHECK.no("it goes on", later.equals(kept));
         x.restore(1);
-        same("restore(1)", all(x), kept);
+        CHECK.same("restore(1)", all(x), kept);
         x.on(5);
-        same("and goes on as before, by the PLAN kept", all(x), later);
+        CHECK.same("and goes on as before, by the PLAN kept", all(x), later);
         Check.brook(x, "good z 3;good y 1;work w 3 4;takes w z 2 4 1;gives w y 2;");
         x.begin();
         x.on(9);
         x.restore(1);
-        same("restore(1) of another BROOK", all(x), kept);
+        CHECK.same("restore(1) of another BROOK", all(x), kept);
         CHECK.eq("the NAMES, too", x.write(), "a 5 10;b 6 42;c 0 0;".length());
         CHECK.eq("a", x.byteAt(0), 'a');
         CHECK.eq("b", x.byteAt(7), 'b');
@@ -126,16 +119,16 @@ public final class ImageTest {
         x.image(1);
         String second = all(x);
         x.restore(0);
-        same("place 0", all(x), first);
+        CHECK.same("place 0", all(x), first);
         x.restore(1);
-        same("place 1", all(x), second);
+        CHECK.same("place 1", all(x), second);
         x.on(4);
         String third = all(x);
         x.image(0);
         x.restore(1);
-        same("place 1 is as it was", all(x), second);
+        CHECK.same("place 1 is as it was", all(x), second);
         x.restore(0);
-        same("place 0 is new", all(x), third);
+        CHECK.same("place 0 is new", all(x), third);
     }
 
     /** In vats and on the way to the top: a gives in HOUR 0 what it has itself in HOUR 1. */
