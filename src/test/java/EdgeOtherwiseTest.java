@@ -40,6 +40,7 @@ public final class EdgeOtherwiseTest {
         promise38TheDay();
         promise38OfLikeOnesTheFirst();
         promise38NoWorks();
+        promise4ItStaysForTheseCalls();
         CHECK.close("EdgeOtherwiseTest");
     }
 
@@ -325,6 +326,12 @@ public final class EdgeOtherwiseTest {
         CHECK.eq("the last two", last.exchanged(1), 2);
         WasteBrook first = Check.of("good w 0;" + lower[0] + "work a;gives a w 1;work y;work z;");
         CHECK.eq("the first two", first.exchanged(1), 0);
+        WasteBrook hours = Check.of("good w 0;work z;work b 11 11;takes b w 1 9 0;makes b 5;work a 0 0;gives a w 1;");
+        CHECK.eq("each with its hours: there is something for b in its hour", hours.exchanged(12), 1);
+        WasteBrook had = Check.of("good w 0;work b;takes b w 1 9 9;makes b 5;work y;work z;");
+        CHECK.eq("with what it has: all alike", had.exchanged(9), 0);
+        WasteBrook fed = Check.of("good w 1;work b;feeds b w 2;work y;work c;takes c w 1 3 0;makes c 5;");
+        CHECK.eq("with what is fed to it: 1 comes to c from y's place", fed.exchanged(1), 0);
         // LOSS is of the place, not of the WORK: a nearer to c by one place
         WasteBrook loss = Check.of("good w 1;work x;work a;gives a w 2;work b;work c;takes c w 1 1 0;makes c 5;work d;");
         CHECK.eq("a and b", loss.exchanged(1), 1);
@@ -368,6 +375,8 @@ public final class EdgeOtherwiseTest {
         CHECK.eq("v of a", x.dry(0, 1, 4), 20);
         CHECK.eq("w of b", x.dry(1, 0, 4), 20);
         CHECK.eq("v of b", x.dry(1, 1, 4), -1);
+        WasteBrook besides = Check.of("good w 0;work a;gives a w 1;work b;feeds b w 1;takes b w 2 2 0;makes b 3;");
+        CHECK.eq("what comes from above comes still", besides.dry(1, 0, 10), 15);
         WasteBrook none = Check.of("good w 0;work a;feeds a w 1;makes a 1;");
         CHECK.eq("what nobody takes", none.dry(0, 0, 200), 0);
         WasteBrook most = Check.of("good w 0;work a;feeds a w 9;takes a w 9 9 0;makes a 99;");
@@ -426,6 +435,9 @@ public final class EdgeOtherwiseTest {
         // 9 are fed a DAY, 9 used a DAY, room for 9: each DAY is alike
         WasteBrook full = Check.of("good p 0;work a 0 0;feeds a p 9;takes a p 9 9 0;makes a 1;");
         CHECK.eq("DAY 0 again", full.rest(), 0);
+        // b loses 1 of what a gives each time that h goes, by what is fed to it: 9 times, but 8 if all stand on the last DAY
+        WasteBrook last6 = Check.of("good u 0;good w 0;work a;gives a w 1;work h;takes h u 9 99 0;feeds h u 1;takes h w 1 1 1;work b;takes b w 1 1 0;makes b 1;");
+        CHECK.eq("DAY 6", last6.rest(), 6);
         // 9 are used at a time, 1 is fed a HOUR
         for (int has = 0; has <= 99; has += 9) {
             WasteBrook x = Check.of("good p 0;work a;feeds a p 1;takes a p 9 99 " + has + ";makes a 1;");
@@ -472,6 +484,22 @@ public final class EdgeOtherwiseTest {
         CHECK.eq("nothing made", Check.of("work a;").rest(), 0);
         int day = Twin.full().rest();
         Twin.same(CHECK, "rest()", t -> t.rest(), day);
+    }
+
+    /** Promise 4: with a FAULT "it stays": what these calls answer of it, too, each as the first call behind the FAULT. */
+    private static void promise4ItStaysForTheseCalls() {
+        String text = "good v 0;good w 0;work z;takes z v 1 1 0;work b 0 5;takes b w 3 4 0;makes b 5;feeds b v 2;work a 0 0;gives a w 9;makes a 2;work c;takes c w 1 2 0;makes c 1;";
+        String wrong = "good p 9;good q 9;work z;takes z p 9 99 99;makes z 99;work y;feeds y q 9;makes y 9;work x;work u;?";
+        Twin.Call[] calls = {x -> x.fed(2), x -> x.wider(3, 24), x -> x.longer(2, 24), x -> x.exchanged(24), x -> x.dry(1, 0, 24), x -> x.rest(), x -> x.kindle(2, 3),
+            x -> x.by(15, 24), x -> x.again(0), x -> x.needed(1, 24), x -> x.worth(24), x -> x.steadies(-1), x -> x.order(1), x -> x.goes(3, 1)};
+        int[] due = {31, 31, 2, 1, 0, 0, 3, 4 + 4, 0, 0, 8, 3, 3, 3};
+        for (int i = 0; i < calls.length; i++) {
+            WasteBrook x = Check.of(text);
+            CHECK.eq("call " + i, calls[i].answer(x), due[i]);
+            WasteBrook y = Check.of(text);
+            CHECK.eq("a FAULT", Check.brook(y, wrong), -wrong.length());
+            CHECK.eq("call " + i + " behind a FAULT", calls[i].answer(y), due[i]);
+        }
     }
 
     /** Promise 38: "NONE: no WORKS": none, and one. */

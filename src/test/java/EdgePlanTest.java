@@ -144,6 +144,18 @@ public final class EdgePlanTest {
             CHECK.eq("HOURS in which it stood", x.went(0, 1), span[1] - span[0] + 1);
             CHECK.eq("b goes with it", x.went(1, 0), x.went(0, 0));
         }
+        WasteBrook both = Check.of("work a;work b;work c;");
+        Check.plan(both, "stops c 1 3;stops a 0 1;stops b 1 2;stops c 2 4;");
+        int[] stand = {1, 7, 6, 4, 4, 0};
+        both.begin();
+        for (int hour = 0; hour < 6; hour++) {
+            both.on(1);
+            int bits = 0;
+            for (int w = 0; w < 3; w++) {
+                bits |= (1 - both.went(w, 5)) << w;
+            }
+            CHECK.eq("who stands in HOUR " + hour, bits, stand[hour]);
+        }
     }
 
     /** PLAN: "'brings' WORK GOOD N HOUR (1 to 99;". */

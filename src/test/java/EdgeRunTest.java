@@ -312,6 +312,8 @@ public final class EdgeRunTest {
         CHECK.eq("c's vat took it first", empty.comes(2, 1), 2);
         empty.on(3);
         CHECK.eq("c found both in HOUR 2", empty.went(2, 3), 3);
+        empty.on(9);
+        CHECK.eq("d found b alone in what b gave in HOUR 2", empty.went(3, 3), 2);
         // the STREAM of w is empty below b, so what c gives has c's mark alone
         WasteBrook stream = begun("good w 0;work a;gives a w 1;work b 11 11;takes b w 1 99 0;work c;gives c w 1;work d;takes d w 1 1 0;");
         stream.on(3);
@@ -381,6 +383,14 @@ public final class EdgeRunTest {
             CHECK.eq("and found none", x.went(0, 3), 0);
             CHECK.eq("nor did it come from any", x.comes(0, 0), 0);
         }
+        // a's in HOUR 0, b's in HOUR 1, none later on
+        WasteBrook soFar = begun("good w 0;work a 0 0;gives a w 1;work b 1 1;gives b w 1;work c;takes c w 1 1 0;");
+        soFar.on(1);
+        CHECK.eq("a", soFar.went(2, 3), 1);
+        soFar.on(1);
+        CHECK.eq("so far: a and b", soFar.went(2, 3), 3);
+        soFar.on(8);
+        CHECK.eq("so far", soFar.went(2, 3), 3);
         WasteBrook own = begun("good w 0;work a;takes a w 1 9 1;gives a w 1;joined;");
         own.on(1);
         CHECK.eq("its own has not come yet", own.went(0, 3), 0);
@@ -459,6 +469,22 @@ public final class EdgeRunTest {
         Check.plan(x, "stops a 0 0;");
         x.begin();
         CHECK.eq("the PLAN stays", x.count(6), 1);
+        WasteBrook anew = begun("good w 0;work a 0 0;gives a w 2;work b 1 11;takes b w 1 3 1;");
+        anew.on(2);
+        CHECK.eq("b found a", anew.went(1, 3) * 10 + anew.comes(1, 0), 11);
+        anew.begin();
+        CHECK.eq("it came from none yet", anew.comes(1, 0), 0);
+        Check.plan(anew, "stops a 0 0;");
+        anew.on(2);
+        CHECK.eq("what is had has no marks", anew.went(1, 0) * 10 + anew.went(1, 3), 10);
+        WasteBrook ring = begun("good w 0;work a;gives a w 1;joined;");
+        ring.on(9);
+        Check.brook(ring, "good w 0;work b;takes b w 1 9 0;feeds b w 1;");
+        ring.begin();
+        ring.on(2);
+        CHECK.eq("nothing is left of what was on its way: b went", ring.went(0, 0), 2);
+        CHECK.eq("and found none", ring.went(0, 3), 0);
+        CHECK.eq("it came from none", ring.comes(0, 0), 0);
     }
 
     /** Promise 10: "by so many HOURS (0 to 200": -1, 0, 1, 199, 200, 201. */

@@ -32,6 +32,7 @@ public final class EdgeSentenceTest {
         promise40ByteI();
         promise40OfTheTextMadeLast();
         promise41HowManyOnes();
+        promise41InPlaceOfTheOneAhead();
         promise41TheTapeIsEmptyThen();
         promise41ItStays();
         promise42HowMany();
@@ -435,6 +436,29 @@ public final class EdgeSentenceTest {
         fine("not(place=1 or not place=2)", 5);
         fine(ones(20), 20);
         fine(ones(19), 19);
+        String nineteen = "lets w or ".repeat(19);
+        CHECK.eq("the 20th is said, too", fine(nineteen + "place=3", 20).said(1), 3);
+        said("lets w and ".repeat(16) + "lets w or place=2", 1 + 4);
+        said(nineteen + "place=3", 1 + 8);
+        said("place<9 and ".repeat(15) + "not not place=2", 4);
+    }
+
+    /** Promise 41: "The tape is the SENTENCE now": nothing is left of the one ahead. */
+    private static void promise41InPlaceOfTheOneAhead() {
+        WasteBrook x = fine("place=1 or place=2 or place=3", 3);
+        CHECK.eq("three", x.said(-1), 3);
+        CHECK.eq("one ONE", Check.sentence(x, "place=0"), 1);
+        CHECK.eq("one", x.said(-1), 1);
+        CHECK.eq("WORK 0", x.said(0), 0);
+        CHECK.eq("two ONES", Check.sentence(x, "not place=0"), 2);
+        CHECK.eq("three again", x.said(-1), 3);
+        CHECK.eq("one ONE", Check.sentence(x, "place>7"), 1);
+        CHECK.eq("none", x.said(-1), 0);
+        WasteBrook most = fine(ones(20), 20);
+        for (int place = 0; place < 4; place++) {
+            CHECK.eq("not the one", Check.sentence(most, "not not not place=" + place), 4);
+            CHECK.eq("three", most.said(-1), 3);
+        }
     }
 
     /** Promise 41 (and 4: "empty then, here and below"). */

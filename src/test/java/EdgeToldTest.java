@@ -100,6 +100,9 @@ public final class EdgeToldTest {
             CHECK.eq("work(6, " + what + ")", x.work(6, what), second[what]);
             CHECK.eq("work(7, " + what + ")", x.work(7, what), last[what]);
         }
+        WasteBrook apart = Check.of("good a 0;good b 0;good c 0;work p;takes p a 1 1 1;gives p b 1;feeds p c 1;work q;feeds q a 1;takes q b 1 1 1;gives q c 1;");
+        CHECK.eq("taken, given and fed by WORK 0", apart.work(0, 3) * 100 + apart.work(0, 4) * 10 + apart.work(0, 5), 124);
+        CHECK.eq("taken, given and fed by WORK 1", apart.work(1, 3) * 100 + apart.work(1, 4) * 10 + apart.work(1, 5), 241);
         StringBuilder all = new StringBuilder("work p;");
         for (char g = 'a'; g < 'g'; g++) {
             all.append("good ").append(g).append(" 0;takes p ").append(g).append(" 1 1 1;gives p ").append(g).append(" 1;feeds p ").append(g).append(" 1;");
@@ -164,7 +167,11 @@ public final class EdgeToldTest {
             CHECK.eq("at(7, 4, " + what + ")", x.at(7, 4, what), 0);
             CHECK.eq("at(0, 5, " + what + ")", x.at(0, 5, what), 0);
         }
-        WasteBrook takes = Check.of("good g 0;work a;takes a g 4 5 6;".replace("5 6", "6 5"));
+        Check.brook(x, "good a 0;work p;");
+        for (int what = 0; what < 5; what++) {
+            CHECK.eq("nothing is left of the BROOK ahead: " + what, x.at(0, 0, what), 0);
+        }
+        WasteBrook takes = Check.of("good g 0;work a;takes a g 4 6 5;");
         CHECK.eq("takes alone", takes.at(0, 0, 0) * 100 + takes.at(0, 0, 1) * 10 + takes.at(0, 0, 2), 465);
         CHECK.eq("gives and is fed nothing", takes.at(0, 0, 3) + takes.at(0, 0, 4), 0);
         WasteBrook gives = Check.of("good g 0;work a;gives a g 4;");
