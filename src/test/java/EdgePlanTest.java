@@ -1,4 +1,7 @@
-/** 'Terms', PLAN and its FAULTS, and promise 20: each sentence that names a boundary. */
+/**
+ * Promise 20, with what 'Terms' say of a PLAN and its FAULTS, which plan() answers: each sentence that names
+ * a boundary, at it and a step to either side.
+ */
 public final class EdgePlanTest {
     private static final Check CHECK = new Check();
     private static final String BROOK = "good w 0;good v 0;work a;gives a w 1;makes a 1;work b;takes b w 1 9 0;makes b 1;";

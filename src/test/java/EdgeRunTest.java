@@ -1,4 +1,7 @@
-/** Part 2 of the document, the RUN, and promises 9 to 16 and 19: each sentence that names a boundary. */
+/**
+ * Promises 9 to 16 and 19, with what part 2 says of a RUN, which on() does: each sentence that names a
+ * boundary, at it and a step to either side.
+ */
 public final class EdgeRunTest {
     private static final Check CHECK = new Check();
     private static final int LEAST = Integer.MIN_VALUE;

@@ -1,4 +1,7 @@
-/** 'Terms', SENTENCE and its FAULTS, and promises 39 to 42: each sentence that names a boundary. */
+/**
+ * Promises 39 to 42, with what part 3 says of a SENTENCE and its FAULTS, which sentence() and said() answer:
+ * each sentence that names a boundary, at it and a step to either side.
+ */
 public final class EdgeSentenceTest {
     private static final Check CHECK = new Check();
     private static final int LEAST = Integer.MIN_VALUE;

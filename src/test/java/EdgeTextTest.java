@@ -1,4 +1,7 @@
-/** 'Terms', TOKENS, BROOK and FAULTS, and promise 4: each sentence that names a boundary. */
+/**
+ * Promise 4, with what 'Terms' say of TOKENS, a BROOK and its FAULTS, which brook() answers: each sentence
+ * that names a boundary, at it and a step to either side.
+ */
 public final class EdgeTextTest {
     private static final Check CHECK = new Check();
     /** 63 bytes. */
