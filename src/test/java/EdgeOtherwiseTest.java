@@ -41,6 +41,7 @@ public final class EdgeOtherwiseTest {
         promise38OfLikeOnesTheFirst();
         promise38NoWorks();
         promise4ItStaysForTheseCalls();
+        sixGoodsAndEightWorks();
         CHECK.close("EdgeOtherwiseTest");
     }
 
@@ -500,6 +501,21 @@ public final class EdgeOtherwiseTest {
             CHECK.eq("a FAULT", Check.brook(y, wrong), -wrong.length());
             CHECK.eq("call " + i + " behind a FAULT", calls[i].answer(y), due[i]);
         }
+    }
+
+    /** Promises 32 to 38 where there are as many GOODS and WORKS as can be. */
+    private static void sixGoodsAndEightWorks() {
+        String all = "good a 0;good b 0;good c 0;good d 0;good e 0;good f 0;work p;work q;work r;work s;work t;work u;work v;work w;";
+        WasteBrook x = Check.of(all + "takes p f 1 1 0;takes q a 1 1 0;takes v f 2 9 0;makes v 3;takes w a 1 1 0;takes w f 3 9 0;gives w f 2;feeds w f 9;makes w 1;");
+        kindle(x, 1, 1, 1, 1);
+        kindle(x, 2, 1, 1, 2);
+        kindle(x, 3, 1, 2, 3);
+        kindle(x, 128, 1, 4, 128);
+        CHECK.eq("v below w has what w's full vat leaves", x.exchanged(4), 6);
+        CHECK.eq("f of w", x.dry(7, 5, 4), 0);
+        CHECK.eq("all alike", x.wider(99, 4), 5);
+        CHECK.eq("all alike", x.longer(11, 4), 0);
+        CHECK.eq("all alike", x.rest(), 0);
     }
 
     /** Promise 38: "NONE: no WORKS": none, and one. */

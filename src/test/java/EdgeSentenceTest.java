@@ -368,6 +368,11 @@ public final class EdgeSentenceTest {
         }
         WasteBrook y = Check.run("good w 0;work a;takes a w 1 1 1;makes a 99;work b;takes b w 1 1 0;makes b 99;", 50);
         text(y, "a 1 99;b 0 0;");
+        int[][] rows = {{111, 9}, {100, 10}, {143, 7}, {101, 99}, {200, 50}, {137, 73}};
+        for (int[] row : rows) {
+            WasteBrook z = Check.run("work a;makes a " + row[1] + ";", row[0]);
+            text(z, "a " + row[0] + " " + row[0] * row[1] + ";");
+        }
     }
 
     /** Promise 39: as long as it can be: 8 WORKS with NAMES of 6 letters, that make 99 in 200 HOURS. */

@@ -53,6 +53,7 @@ public final class EdgeSetsTest {
         promise31ToItsFirstWorkBesides();
         promise31ZeroItIsSteady();
         promise31None();
+        sixGoodsAndEightWorks();
         CHECK.close("EdgeSetsTest");
     }
 
@@ -629,6 +630,28 @@ public final class EdgeSetsTest {
         CHECK.eq("who takes nothing", Check.of("work a;").fed(1), 0);
         CHECK.eq("has just what it takes", Check.of("good w 0;work a;feeds a w 1;takes a w 1 1 0;").fed(1), 0);
         CHECK.eq("lacks one", Check.of("good w 0;work a;feeds a w 1;takes a w 2 2 0;").fed(1), 10);
+    }
+
+    /** Promises 22 to 31 where there are as many GOODS and WORKS as can be. */
+    private static void sixGoodsAndEightWorks() {
+        String all = "good a 1;good b 0;good c 0;good d 0;good e 0;good f 1;work p;work q;work r;work s;work t;work u;work v;work w;";
+        WasteBrook x = Check.of(all + "takes q a 1 1 0;gives v f 2;takes w f 1 1 0;makes w 3;makes p 1;");
+        CHECK.eq("p and q: 2 of a, as 1 is lost", x.fed(3), 20);
+        CHECK.eq("q alone", x.fed(2), 10);
+        CHECK.eq("p and w: 8 of f, as 7 are lost", x.fed(129), 85);
+        CHECK.eq("v and w", x.steady(192), 1);
+        CHECK.eq("w alone", x.steady(128), 0);
+        CHECK.eq("all but q", x.greatest(255), 253);
+        CHECK.eq("w falls with v", x.falls(6), 128);
+        CHECK.eq("v does not with w", x.falls(7), 0);
+        CHECK.eq("six that take nothing, of v and w all but w alone", x.steadies(-1), 32 * 3);
+        CHECK.eq("the last", x.steadies(95), 253);
+        CHECK.eq("by v and w", x.by(192, 2), 6);
+        CHECK.eq("by all", x.worth(2), 8);
+        worthIs(x, 6, 3, 1);
+        worthIs(x, 7, 3, 1);
+        worthIs(x, 0, 2, 1);
+        worthIs(x, 5, 0, 1);
     }
 
     /** Promise 31: "NONE: 99 of none do, no such set": 0 is none, though it is STEADY. */
