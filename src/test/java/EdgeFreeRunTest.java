@@ -24,6 +24,7 @@ public final class EdgeFreeRunTest {
         promise21NoneNoneDoes();
         promise21NoneAnotherWhat();
         promise21WithoutAPlan();
+        sixGoodsAndEightWorks();
         CHECK.close("EdgeFreeRunTest");
     }
 
@@ -231,5 +232,20 @@ public final class EdgeFreeRunTest {
         CHECK.eq("m", x.again(0), 4);
         CHECK.eq("k", x.again(1), 12);
         CHECK.eq("the RUN stays", x.hour() * 10 + x.vat(0, 0), 305);
+    }
+
+    /** Promises 17, 18 and 21 of the last GOOD and WORK there can be. */
+    private static void sixGoodsAndEightWorks() {
+        String all = "good a 0;good b 0;good c 0;good d 0;good e 0;good f 0;work p;work q;work r;work s;work t;work u;work v;work w;";
+        again(all + "takes w f 1 99 0;takes w e 1 1 0;feeds w f 1;", 98, 12);
+        again(all + "takes w f 1 99 20;", 19, 12);
+        again(all + "feeds w f 1;joined;", -1, -1);
+        again(all.replace("f 0", "f 1") + "feeds w f 1;joined;", 0, 12);
+        WasteBrook x = Check.of(all + "takes w f 1 99 20;makes w 1;");
+        CHECK.eq("HOURS 12 to 19", x.goes(7, 1), 255);
+        CHECK.eq("none behind them", x.goes(7, 2), 0);
+        CHECK.eq("the last to go first", x.order(7), 7);
+        CHECK.eq("20 HOURS in 200", x.by(128, 200), 20);
+        CHECK.eq("19 in 19", x.by(128, 19), 19);
     }
 }

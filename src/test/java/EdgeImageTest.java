@@ -19,6 +19,7 @@ public final class EdgeImageTest {
         promise44FalseNoSuchOne();
         promise44FalseNothingIsKeptThere();
         promise44AsOftenAsOneLikes();
+        sixGoodsAndEightWorks();
         CHECK.close("EdgeImageTest");
     }
 
@@ -196,6 +197,47 @@ public final class EdgeImageTest {
             CHECK.eq("back", x.vat(0, 0), 7);
             Check.brook(x, "work z;");
             CHECK.yes("restore(1) of another BROOK", x.restore(1));
+        }
+    }
+
+    /** Promise 44: "as kept", of the last GOOD and WORK there can be: what is in its vat and on its way, with all marks. */
+    private static void sixGoodsAndEightWorks() {
+        String all = "good a 0;good b 0;good c 0;good d 0;good e 0;good f 0;work p;work q;work r;work s;work t;work u;work v;takes v e 1 9 HAS;gives v f 4;"
+            + "work w;takes w f 9 99 0;gives w f 5;makes w 99;joined;";
+        // v gives 4 in each HOUR; w goes in HOUR 2
+        WasteBrook x = Check.run(all.replace("HAS", "9"), 3);
+        Check.plan(x, "stops p 0 0;".repeat(19) + "brings w f 90 3;");
+        Check.sentence(x, "finds w and wants f");
+        x.image(0);
+        x.begin();
+        Check.plan(x, "");
+        Check.sentence(x, "place=0");
+        x.image(1);
+        for (int time = 0; time < 2; time++) {
+            x.restore(1);
+            lastWork(x, new int[] {0, 0, 0, 0, 0, 0, 0, -1, 0});
+            x.restore(0);
+            lastWork(x, new int[] {3, 64, 2, 1, 2, 99, 64, 2, 5});
+            CHECK.eq("nobody finds w", x.said(-1), 0);
+            x.on(1);
+            // 90 are brought, the 5 that w gave and 1 of v's 4 come: 99, of which 9 are used
+            lastWork(x, new int[] {90, 192, 2, 2, 2, 198, 192, 3, 8});
+            CHECK.eq("w finds itself", x.said(0), 7);
+        }
+        // v gives 4 in HOUR 0 alone; they are in w's vat till HOUR 4, when 5 are brought
+        WasteBrook once = Check.run(all.replace("HAS", "1"), 3);
+        Check.plan(once, "brings w f 5 4;");
+        once.image(1);
+        once.begin();
+        once.restore(1);
+        once.on(2);
+        lastWork(once, new int[] {0, 64, 4, 1, 4, 99, 64, 4, 5});
+    }
+
+    private static void lastWork(WasteBrook x, int[] due) {
+        int[] got = {x.vat(7, 5), x.comes(7, 5), x.lacks(7, 5), x.went(7, 0), x.went(7, 1), x.went(7, 2), x.went(7, 3), x.went(7, 4), x.parts(5, 7)};
+        for (int i = 0; i < due.length; i++) {
+            CHECK.eq("of WORK 7 the answer " + i + " behind " + x.hour(), got[i], due[i]);
         }
     }
 }

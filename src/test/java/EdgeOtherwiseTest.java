@@ -20,6 +20,7 @@ public final class EdgeOtherwiseTest {
         promise33NoneAheadOfAny();
         promise33TheLatestThatWas0OrAbove();
         promise34TheVatByWhichMostIsMade();
+        promise34LargerThanCanBeTold();
         promise34OfLikeOnes();
         promise34From1To99();
         promise34Hours();
@@ -74,6 +75,11 @@ public final class EdgeOtherwiseTest {
         // N is brought, not SIZE: a goes once, and gives 1 of the 2
         kindle(twice, 2, 48, 2, 2);
         kindle(twice, 3, 48, 5, 3);
+        // the 9 that a has at first would let it go twice, and b by it
+        WasteBrook has = Check.of("good w 0;good v 0;work a;takes a w 1 9 9;gives a v 1;work b;takes b v 2 9 9;");
+        kindle(has, 2, 48, 2, 2);
+        kindle(has, 3, 48, 3, 3);
+        kindle(has, 1, 48, 1, 1);
     }
 
     /** KINDLED: "so that each WORK of a told set GOES once at least in so many HOURS": an HOUR less, just so, one more. */
@@ -195,6 +201,23 @@ public final class EdgeOtherwiseTest {
         CHECK.eq("c's", y.wider(1, 12), 20);
         WasteBrook beyond = Check.of("good w 0;work a 0 0;takes a w 9 99 99;feeds a w 9;makes a 1;work b;takes b w 1 1 0;makes b 1;");
         CHECK.eq("what a's vat has no room for comes to b: b's", beyond.wider(1, 2), 10);
+    }
+
+    /** WIDER: "by whose SIZE n more", though a BROOK can tell of none beyond 99. */
+    private static void promise34LargerThanCanBeTold() {
+        // for 99 HOURS 18 come to c in each, which uses 9; then it goes on by what its vat has: 90 of 99, 9 less than SIZE
+        WasteBrook x = Check.of("good v 0;good w 0;work a;takes a v 1 99 99;gives a w 9;work b;takes b v 1 99 99;gives b w 9;work c;takes c w 9 99 0;makes c 1;");
+        CHECK.eq("109 HOURS by c as it is told", x.by(7, 200), 109);
+        CHECK.eq("8 more: 98 are left, 10 HOURS as ever, of like ones the first", x.wider(8, 200), 0);
+        CHECK.eq("9 more: 99 are left, 11 HOURS", x.wider(9, 200), 21);
+        CHECK.eq("99 more: 189 are left, 21 HOURS", x.wider(99, 200), 21);
+        CHECK.eq("in 109 HOURS they are of no use", x.wider(99, 109), 0);
+        CHECK.eq("in 110 they are", x.wider(99, 110), 21);
+        // d uses 8 of 16: by 98 or 99 more it goes 12 HOURS longer, which makes 108; e, by 9 of 18, 10 or 11, which makes 100 or 110
+        WasteBrook y = Check.of("good v 0;good w 0;good u 0;work a;takes a v 1 99 99;gives a w 9;gives a u 8;work b;takes b v 1 99 99;gives b w 9;gives b u 8;"
+            + "work d;takes d u 8 99 0;makes d 9;work e;takes e w 9 99 0;makes e 10;");
+        CHECK.eq("98 more: d's", y.wider(98, 200), 22);
+        CHECK.eq("99 more: e's", y.wider(99, 200), 31);
     }
 
     /** WIDER: "(of the first WORK, of like ones of the lesser GOOD)". */
@@ -427,6 +450,9 @@ public final class EdgeOtherwiseTest {
         // 2 used and 1 fed a HOUR, from a full vat of 24: on DAY 0 what is fed finds no room
         WasteBrook one = Check.of("good p 0;work a;feeds a p 1;takes a p 2 24 24;makes a 1;");
         CHECK.eq("DAY 1", one.rest(), 1);
+        // 7 used and 1 fed a HOUR, from a full vat of 7, in all hours but 0: b goes 11 times, if it stands on DAY 1, 2, 4 or 5, else 10
+        WasteBrook whole = Check.of("good p 0;work b 1 11;feeds b p 1;takes b p 7 7 7;makes b 1;");
+        CHECK.eq("DAY 1, in all of its hours", whole.rest(), 1);
         // the vat of 99 is used by 9 in one HOUR of a DAY and fed 0: eleven DAYS' are there, all alike
         WasteBrook alike = Check.of("good p 0;work a 0 0;takes a p 9 99 99;makes a 1;");
         CHECK.eq("DAY 0", alike.rest(), 0);

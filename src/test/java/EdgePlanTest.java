@@ -29,6 +29,7 @@ public final class EdgePlanTest {
         promise20HowManyLines();
         promise20ItStays();
         promise20WithoutWorks();
+        sixGoodsAndEightWorks();
         CHECK.close("EdgePlanTest");
     }
 
@@ -103,6 +104,20 @@ public final class EdgePlanTest {
         x.on(3);
         CHECK.eq("a stood in two", x.went(0, 1), 2);
         CHECK.eq("b in the first, and in the next for want of w", x.went(1, 1), 2);
+        WasteBrook brings = fine(STOP.repeat(19) + "brings b w 7 2;", 20);
+        brings.begin();
+        brings.on(2);
+        CHECK.eq("b's vat ahead of HOUR 2", brings.vat(1, 0), 0);
+        brings.on(1);
+        CHECK.eq("7 are brought, 1 comes, 1 is used", brings.vat(1, 0), 7);
+        CHECK.eq("brought", brings.parts(0, 1), 7);
+        WasteBrook stops = fine("stops a 5 5;".repeat(19) + "stops b 3 4;", 20);
+        stops.begin();
+        int[] stood = {0, 0, 0, 0, 1, 2, 2};
+        for (int hours = 0; hours < 7; hours++) {
+            CHECK.eq("b stood behind " + hours + " HOURS in", stops.went(1, 1), stood[hours]);
+            stops.on(1);
+        }
     }
 
     /** PLAN: "HOURS of a RUN 0 to 199". */
@@ -322,5 +337,23 @@ public final class EdgePlanTest {
         CHECK.eq("none", x.plan(), 0);
         CHECK.eq("one", Check.plan(x, STOP), -7);
         CHECK.eq("no such NAME", x.fault(), 3);
+    }
+
+    /** PLAN: the last GOOD and WORK there can be, and the first, by their NAMES. */
+    private static void sixGoodsAndEightWorks() {
+        WasteBrook x = Check.of("good a 0;good b 0;good c 0;good d 0;good e 0;good f 0;work p;takes p a 1 99 0;work q;work r;work s;work t;work u;work v;"
+            + "work w;takes w f 1 99 0;");
+        CHECK.eq("LINES", Check.plan(x, "brings w f 99 1;brings p a 98 0;stops w 0 2;stops p 3 3;"), 4);
+        x.begin();
+        x.on(1);
+        CHECK.eq("98 less 1", x.vat(0, 0), 97);
+        CHECK.eq("not yet", x.vat(7, 5), 0);
+        x.on(4);
+        CHECK.eq("p stood in HOUR 3", x.vat(0, 0), 94);
+        CHECK.eq("w in HOURS 0 to 2", x.vat(7, 5), 97);
+        CHECK.eq("a FAULT at the GOOD, which w does not take", Check.plan(x, "brings w e 1 1;"), -10);
+        CHECK.eq("of kind 3", x.fault(), 3);
+        CHECK.eq("a FAULT at the GOOD, which v does not take", Check.plan(x, "brings v f 1 1;"), -10);
+        CHECK.eq("of kind 3", x.fault(), 3);
     }
 }

@@ -28,6 +28,8 @@ public final class EdgeRunTest {
         partsAreAll();
         foundTillItIsEmpty();
         foundInAVatFilledWithNothing();
+        foundInWhatIsGivenLater();
+        foundInWhatHasTheMarkAlready();
         foundOnTheWayToTheTop();
         foundNoneInWhatWasFedBroughtHad();
         comesAsTheyGaveIt();
@@ -51,6 +53,7 @@ public final class EdgeRunTest {
         promise16Lacks();
         promise16None();
         promise19Made();
+        sixGoodsAndEightWorks();
         CHECK.close("EdgeRunTest");
     }
 
@@ -356,6 +359,57 @@ public final class EdgeRunTest {
         Check.plan(z, "brings b w 1 1;stops c 0 0;stops b 0 0;brings c v 1 0;");
         z.on(2);
         CHECK.eq("b: a in its vat, to which was brought", z.went(1, 3), 1);
+    }
+
+    /** FOUND: "keeps its marks while there is some in it": seen by c, whose vat has room for what b gives late, and for nothing ahead of it. */
+    private static void foundInWhatIsGivenLater() {
+        String ahead = "good w 0;good v 0;work a 0 0;gives a w GIVEN;work b;takes b w 1 9 0;gives b v 1;";
+        WasteBrook some = begun(ahead.replace("GIVEN", "2") + "work c;takes c v 1 1 1;");
+        some.on(1);
+        CHECK.eq("c went by what it had", some.went(2, 0) * 10 + some.went(2, 3), 10);
+        CHECK.eq("1 is left in b's vat", some.vat(1, 0), 1);
+        some.on(1);
+        CHECK.eq("c found a, too, in what b gave of it", some.went(2, 3), 3);
+        WasteBrook none = begun(ahead.replace("GIVEN", "1") + "work c;takes c v 1 1 1;");
+        Check.plan(none, "brings b w 1 1;");
+        none.on(2);
+        CHECK.eq("b's vat was empty ahead of what was brought", none.went(1, 0), 2);
+        CHECK.eq("c found b alone", none.went(2, 3), 2);
+        WasteBrook fed = begun(ahead.replace("GIVEN", "1") + "feeds b w 1;work c 9 10;takes c v 1 1 1;");
+        fed.on(10);
+        CHECK.eq("c had what has no marks till HOUR 9", fed.went(2, 3), 0);
+        fed.on(1);
+        CHECK.eq("b's vat was never empty in 10 HOURS", fed.went(2, 3), 3);
+        WasteBrook once = begun(ahead.replace("GIVEN", "1") + "feeds b w 1;work c 9 10;takes c v 1 1 1;");
+        Check.plan(once, "stops a 0 0;");
+        once.on(11);
+        CHECK.eq("c found b alone, as a stood", once.went(2, 3), 2);
+    }
+
+    /** FOUND: "all marks of what was mixed": a mark that is there already is no less there when it comes again. */
+    private static void foundInWhatHasTheMarkAlready() {
+        WasteBrook two = begun("good w 0;good v 0;work a;gives a w 1;gives a v 1;work b;takes b w 1 1 0;takes b v 1 1 0;gives b w 1;work c;takes c w 1 1 0;");
+        two.on(1);
+        CHECK.eq("b found a in both", two.went(1, 3), 1);
+        CHECK.eq("c found both", two.went(2, 3), 3);
+        // what a gave in HOUR 0 passes a in HOUR 1, when it gives again
+        WasteBrook stream = begun("good w 0;work a;gives a w 1;work b 0 1;takes b w 1 1 1;joined;");
+        stream.on(1);
+        CHECK.eq("b went by what it had", stream.went(1, 0) * 10 + stream.went(1, 3), 10);
+        stream.on(1);
+        CHECK.eq("b found a", stream.went(1, 3), 1);
+        CHECK.eq("from which it came", stream.comes(1, 0), 1);
+        // a uses in HOUR 1 what it gave in HOUR 0
+        WasteBrook own = begun("good w 0;work a;takes a w 1 1 1;gives a w 1;work b;takes b w 1 1 1;joined;");
+        own.on(1);
+        CHECK.eq("nobody is found in what was had", own.went(0, 3) + own.went(1, 3), 0);
+        own.on(1);
+        CHECK.eq("a found itself", own.went(0, 3), 1);
+        CHECK.eq("b found a", own.went(1, 3), 1);
+        // b's vat takes what a gave in two HOURS
+        WasteBrook vat = begun("good w 0;good v 0;work a;gives a w 1;work b 1 1;takes b w 2 9 0;gives b v 1;work c;takes c v 1 1 0;");
+        vat.on(2);
+        CHECK.eq("c found a and b", vat.went(2, 3), 3);
     }
 
     /** FOUND: what is on its way to the top keeps its marks; what is lost of it whole has none. */
@@ -785,5 +839,56 @@ public final class EdgeRunTest {
         x.brook();
         CHECK.eq("no RUN any more", x.made(), -1);
         Twin.same(CHECK, "made()", t -> t.made(), 5 * 7 + 4 * 2);
+    }
+
+    /** Promises 12 to 16 of the last WORK and the last GOOD there can be, and of a STREAM larger than the largest vat. */
+    private static void sixGoodsAndEightWorks() {
+        StringBuilder b = new StringBuilder("good a 0;good b 0;good c 0;good d 0;good e 0;good f LOSS;work p;work q;work r;work s;work t;work u;work v;work w;");
+        for (char w = 'p'; w < 'x'; w++) {
+            b.append("gives ").append(w).append(" f 9;feeds ").append(w).append(" f 9;");
+        }
+        String all = b.append("takes w f 9 99 0;makes w 99;joined;").toString();
+        // p to v are fed 63 and give 63, w is fed 9: of 135 its vat takes 99 and w uses 9
+        WasteBrook x = begun(all.replace("LOSS", "0"));
+        x.on(1);
+        partsOf(x, new int[] {72, 0, 72, 9, 0, 0, 90, 45});
+        lastWork(x, new int[] {90, 127, 0, 1, 0, 99, 127, 0, 1});
+        x.on(1);
+        partsOf(x, new int[] {144, 0, 144, 18, 0, 0, 90, 180});
+        lastWork(x, new int[] {90, 255, 0, 2, 0, 198, 255, 1, 1});
+        // 9 are lost below each of p to v: of 72 the vat takes all
+        WasteBrook lost = begun(all.replace("LOSS", "9"));
+        lost.on(1);
+        partsOf(lost, new int[] {72, 0, 72, 9, 63, 0, 63, 9});
+        lastWork(lost, new int[] {63, 127, 0, 1, 0, 99, 127, 0, 1});
+        WasteBrook out = begun(all.replace("LOSS", "0").replace("joined;", ""));
+        out.on(2);
+        partsOf(out, new int[] {144, 0, 144, 18, 0, 45 + 135, 90, 0});
+        lastWork(out, new int[] {90, 127, 0, 2, 0, 198, 127, 1, 1});
+        // what w gives is lost at the top, and its mark with it; what p is fed has none
+        WasteBrook marks = begun("good f 1;work p;feeds p f 1;takes p f 1 9 0;work q;work r;work s;work t;work u;work v;work w;gives w f 1;joined;");
+        marks.on(200);
+        CHECK.eq("p goes by what it is fed", marks.went(0, 0), 200);
+        CHECK.eq("and finds nobody", marks.went(0, 3), 0);
+        WasteBrook ring = begun("good f 0;work p;takes p f 1 9 0;work q;work r;work s;work t;work u;work v;work w;gives w f 1;joined;");
+        ring.on(3);
+        CHECK.eq("p goes by what w gives", ring.went(0, 0), 2);
+        CHECK.eq("and finds w", ring.went(0, 3), 128);
+        CHECK.eq("whose waste comes to it", ring.comes(0, 0), 128);
+        CHECK.eq("and was lacking in HOUR 0", ring.lacks(0, 0), 1);
+    }
+
+    private static void partsOf(WasteBrook x, int[] due) {
+        for (int what = 0; what < 8; what++) {
+            CHECK.eq("parts(5, " + what + ") behind " + x.hour(), x.parts(5, what), due[what]);
+            CHECK.eq("parts(4, " + what + ")", x.parts(4, what), 0);
+        }
+    }
+
+    private static void lastWork(WasteBrook x, int[] due) {
+        int[] got = {x.vat(7, 5), x.comes(7, 5), x.lacks(7, 5), x.went(7, 0), x.went(7, 1), x.went(7, 2), x.went(7, 3), x.went(7, 4), x.went(7, 5)};
+        for (int i = 0; i < due.length; i++) {
+            CHECK.eq("of WORK 7 the answer " + i + " behind " + x.hour(), got[i], due[i]);
+        }
     }
 }

@@ -501,6 +501,17 @@ public final class EdgeSentenceTest {
         CHECK.eq("of eight", eight.said(-1), 8);
         CHECK.eq("the last", eight.said(7), 7);
         CHECK.eq("behind it", eight.said(8), -1);
+        WasteBrook last = Check.of("good a 0;good b 0;good c 0;good d 0;good e 0;good f 0;work p;takes p f 1 9 0;work q;work r;work s;work t;work u;work v;gives v f 1;"
+            + "work w;gives w f 1;joined;");
+        last.begin();
+        last.on(2);
+        String[] of = {"wants f", "lets f", "finds w", "finds v", "finds p", "wants a", "lets e", "place=7"};
+        int[][] said = {{1, 0}, {2, 6}, {1, 0}, {1, 0}, {0, -1}, {0, -1}, {0, -1}, {1, 7}};
+        for (int i = 0; i < of.length; i++) {
+            CHECK.eq(of[i], Check.sentence(last, of[i]), 1);
+            CHECK.eq("WORKS of which " + of[i], last.said(-1), said[i][0]);
+            CHECK.eq("the first of which " + of[i], last.said(0), said[i][1]);
+        }
     }
 
     /** Promise 42: "or the k-th one": the first, the last, one behind it. */

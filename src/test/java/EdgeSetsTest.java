@@ -436,6 +436,8 @@ public final class EdgeSetsTest {
         CHECK.eq("HAS", has.steady(1), 0);
         WasteBrook size = Check.of("good w 0;work a;gives a w 9;work b;takes b w 1 99 0;work c;takes c w 8 8 0;");
         CHECK.eq("SIZES: b takes N alone", size.steady(7), 1);
+        WasteBrook small = Check.of("good w 0;work a;gives a w 9;work b;takes b w 1 1 1;work c;takes c w 8 8 0;");
+        CHECK.eq("SIZES: more than b's vat could have comes by", small.steady(7), 1);
         WasteBrook ring = Check.of("good w 0;work b;takes b w 1 9 0;work a;gives a w 5;joined;");
         CHECK.eq("JOINED", ring.steady(3), 0);
     }
@@ -638,6 +640,7 @@ public final class EdgeSetsTest {
         WasteBrook x = Check.of(all + "takes q a 1 1 0;gives v f 2;takes w f 1 1 0;makes w 3;makes p 1;");
         CHECK.eq("p and q: 2 of a, as 1 is lost", x.fed(3), 20);
         CHECK.eq("q alone", x.fed(2), 10);
+        CHECK.eq("w alone", x.fed(128), 15);
         CHECK.eq("p and w: 8 of f, as 7 are lost", x.fed(129), 85);
         CHECK.eq("v and w", x.steady(192), 1);
         CHECK.eq("w alone", x.steady(128), 0);
