@@ -19,6 +19,8 @@ public final class EdgeImageTest {
         promise44FalseNoSuchOne();
         promise44FalseNothingIsKeptThere();
         promise44AsOftenAsOneLikes();
+        promise44MarksAndWhoGave();
+        promise43BehindAFault();
         sixGoodsAndEightWorks();
         CHECK.close("EdgeImageTest");
     }
@@ -198,6 +200,47 @@ public final class EdgeImageTest {
             Check.brook(x, "work z;");
             CHECK.yes("restore(1) of another BROOK", x.restore(1));
         }
+    }
+
+    /** Promise 44: "as kept": FOUND by a WORK and COMES to a vat are two things, in a vat and on the way. */
+    private static void promise44MarksAndWhoGave() {
+        // b gives of what a gave; c's vat has of it, and it is on its way to the top, where d's vat takes it
+        WasteBrook x = Check.run("good w 0;good v 0;work d 2 2;takes d v 1 1 1;work a 0 0;gives a w 1;work b;takes b w 1 1 0;gives b v 2;work c 2 2;takes c v 1 1 0;joined;", 1);
+        CHECK.eq("in c's vat and on its way", x.vat(3, 1) * 10 + x.parts(1, 7), 11);
+        x.image(0);
+        for (int time = 0; time < 2; time++) {
+            x.begin();
+            x.restore(0);
+            CHECK.eq("it came to c from b", x.comes(3, 1), 4);
+            CHECK.eq("nothing came to d", x.comes(0, 1), 0);
+            x.on(2);
+            CHECK.eq("c found a and b", x.went(3, 3), 6);
+            CHECK.eq("d went by what it had", x.went(0, 0) * 10 + x.went(0, 3), 10);
+            x.on(12);
+            CHECK.eq("d's vat took what b gave", x.comes(0, 1), 4);
+            CHECK.eq("and d found a and b", x.went(0, 3), 6);
+            CHECK.eq("c still has it from b alone", x.comes(3, 1), 4);
+        }
+    }
+
+    /** Promise 43: what is kept is the PLAN and the SENTENCE there is, not one that was read with a FAULT. */
+    private static void promise43BehindAFault() {
+        WasteBrook x = Check.of("good w 0;work a;work b;takes b w 1 9 0;");
+        Check.plan(x, "stops a 0 1;brings b w 3 2;");
+        Check.sentence(x, "place=1 and wants w");
+        CHECK.eq("a PLAN with a FAULT", Check.plan(x, "stops b 0 5;stops b"), -20);
+        CHECK.eq("a SENTENCE with a FAULT", Check.sentence(x, "place=0 or"), -11);
+        x.image(1);
+        Check.plan(x, "");
+        Check.sentence(x, "place=0");
+        x.restore(1);
+        CHECK.eq("LINES of the PLAN", x.count(6), 2);
+        x.begin();
+        CHECK.eq("of one", x.said(-1), 1);
+        CHECK.eq("of b", x.said(0), 1);
+        x.on(3);
+        CHECK.eq("a stood in two", x.went(0, 1), 2);
+        CHECK.eq("b has 2 of 3", x.vat(1, 0), 2);
     }
 
     /** Promise 44: "as kept", of the last GOOD and WORK there can be: what is in its vat and on its way, with all marks. */

@@ -16,6 +16,7 @@ public final class EdgeOtherwiseTest {
         promise32NoneDoes();
         promise32NoSuchOnes();
         promise33OfLikeOnesTheLeastSet();
+        promise33OthersThanTheToldSet();
         promise33WhoTakesNothing();
         promise33NoneAheadOfAny();
         promise33TheLatestThatWas0OrAbove();
@@ -150,6 +151,15 @@ public final class EdgeOtherwiseTest {
         kindle(x, 6, 1, 2, 2);
         kindle(x, 5, 1, 2, 1);
         kindle(x, 7, 1, 4, 3);
+    }
+
+    /** KINDLED: sets of any WORKS: of none of the told set, and larger as bits than it. */
+    private static void promise33OthersThanTheToldSet() {
+        WasteBrook ring = Check.of("good w 0;good v 0;work a;takes a w 5 9 0;work b;takes b v 1 9 0;gives b w 5;joined;");
+        kindle(ring, 1, 1, 5, 1);
+        kindle(ring, 1, 2, 1, 2);
+        kindle(ring, 2, 2, 1, 2);
+        kindle(ring, 3, 2, 1, 2);
     }
 
     /** Promise 33: "Who is brought something": who takes nothing is brought nothing. */
@@ -363,6 +373,11 @@ public final class EdgeOtherwiseTest {
 
     /** Promise 36: "the upper WORK (of like ones the first)". */
     private static void promise36OfLikeOnesTheFirst() {
+        // a never goes, b always and c in HOUR 0 alone, wherever they are
+        WasteBrook once = Check.of("good w 0;work a;takes a w 1 30 0;makes a 2;work b;makes b 1;work c;takes c w 1 1 1;makes c 1;");
+        for (int hours : new int[] {1, 12, 13, 24, 36, 48, 199, 200}) {
+            CHECK.eq("exchanged(" + hours + ")", once.exchanged(hours), 0);
+        }
         CHECK.eq("all alike", Check.of("work a;work b;work c;makes c 1;").exchanged(5), 0);
         WasteBrook x = Check.of("good w 0;work b;takes b w 1 1 0;makes b 5;work a;gives a w 1;work c;takes c w 1 1 0;makes c 5;work d;");
         CHECK.eq("1 for b by exchange, none for c then: alike", x.exchanged(1), 0);

@@ -42,6 +42,7 @@ public final class EdgeStaysTest {
         promise43And44Places();
         everyCallIsTried();
         withoutAPlan();
+        ofTheBrookThatIsThere();
         CHECK.close("EdgeStaysTest");
     }
 
@@ -309,24 +310,53 @@ public final class EdgeStaysTest {
         CHECK.same("every call is tried here", TRIED.toString(), new TreeSet<>(all).toString());
     }
 
+    private static final Map<String, Call> ASKED = new LinkedHashMap<>();
+
+    static {
+        ASKED.put("goes", x -> each(w -> x.goes(w, 0) + " " + x.goes(w, 2), 3));
+        ASKED.put("order", x -> each(k -> x.order(k), 3));
+        ASKED.put("again", x -> each(what -> x.again(what), 2));
+        ASKED.put("by", x -> each(set -> x.by(set, 1) + " " + x.by(set, 13) + " " + x.by(set, 200), 8));
+        ASKED.put("needed", x -> each(w -> x.needed(w, 1) + " " + x.needed(w, 60), 3));
+        ASKED.put("worth", x -> x.worth(30) + " " + worths(x));
+        ASKED.put("kept", x -> each(share -> keptBy(x, 20 * share), 6));
+        ASKED.put("steady", x -> each(set -> x.steady(set), 8));
+        ASKED.put("steadies", x -> x.steadies(-1) + " " + each(k -> x.steadies(k), 4));
+        ASKED.put("greatest", x -> each(set -> x.greatest(7 - set), 8));
+        ASKED.put("falls", x -> each(w -> x.falls(w), 3));
+        ASKED.put("fed", x -> each(set -> x.fed(set), 8));
+        ASKED.put("kindle", x -> each(set -> x.kindle(set, 4) + " " + x.kindled(), 8));
+        ASKED.put("wider", x -> x.wider(1, 12) + " " + x.wider(9, 200));
+        ASKED.put("longer", x -> x.longer(1, 12) + " " + x.longer(5, 200));
+        ASKED.put("exchanged", x -> x.exchanged(12) + " " + x.exchanged(50));
+        ASKED.put("dry", x -> x.dry(1, 0, 9) + " " + x.dry(1, 1, 100));
+        ASKED.put("rest", x -> x.rest());
+    }
+
+    /** Something that is asked by a number. */
+    interface Asked {
+        Object by(int i);
+    }
+
+    private static String each(Asked asked, int many) {
+        StringBuilder b = new StringBuilder();
+        for (int i = 0; i < many; i++) {
+            b.append(asked.by(i)).append(' ');
+        }
+        return b.toString();
+    }
+
+    private static int keptBy(WasteBrook x, int share) {
+        x.feed(share << 16 | share, share << 16, 0, 0, 0);
+        x.end(6);
+        return x.kept(12);
+    }
+
     /** All answers that are of RUNS without a PLAN, or of no RUN at all. */
     private static String answers(WasteBrook x) {
         StringBuilder b = new StringBuilder();
-        for (int i = 0; i < 3; i++) {
-            b.append(" goes ").append(x.goes(i, 0)).append(' ').append(x.goes(i, 2)).append(" order ").append(x.order(i)).append(" again ").append(x.again(i))
-                .append(" needed ").append(x.needed(i, 1)).append(' ').append(x.needed(i, 60)).append(" falls ").append(x.falls(i));
-        }
-        for (int set = 0; set < 8; set++) {
-            b.append(" by ").append(x.by(set, 1)).append(' ').append(x.by(set, 13)).append(' ').append(x.by(set, 200)).append(" steady ").append(x.steady(set))
-                .append(" greatest ").append(x.greatest(set)).append(" fed ").append(x.fed(set)).append(" kindle ").append(x.kindle(set, 4)).append(' ').append(x.kindled());
-        }
-        b.append(" worth ").append(x.worth(30)).append(' ').append(worths(x)).append(" steadies ").append(x.steadies(-1));
-        b.append(" wider ").append(x.wider(1, 12)).append(' ').append(x.wider(9, 200)).append(" longer ").append(x.longer(1, 12)).append(' ').append(x.longer(5, 200));
-        b.append(" exchanged ").append(x.exchanged(12)).append(" dry ").append(x.dry(1, 0, 9)).append(' ').append(x.dry(1, 1, 100)).append(" rest ").append(x.rest());
-        for (int share : new int[] {0, 20, 40, 60, 80, 100}) {
-            x.feed(share << 16 | share, share << 16, 0, 0, 0);
-            x.end(6);
-            b.append(" kept ").append(x.kept(12));
+        for (Map.Entry<String, Call> asked : ASKED.entrySet()) {
+            b.append(asked.getKey()).append(' ').append(asked.getValue().answer(x)).append('\n');
         }
         return b.toString();
     }
@@ -359,5 +389,37 @@ public final class EdgeStaysTest {
         CHECK.same("with the PLAN " + plan + " behind " + hours + " HOURS", answers(x), answers(Check.of(text)));
         CHECK.same("the RUN stays", run(x), ahead);
         CHECK.eq("the PLAN stays", x.count(6), lines);
+    }
+
+    /** Promise 4, with a FAULT "it stays", and promise 44, "as kept": each answer is of the BROOK that is there, whatever was read last. */
+    private static void ofTheBrookThatIsThere() {
+        String[] wrong = {"?", "good w 9;work z 1 1;feeds z w 9;makes z 99;work y", NOW + "joined;joined;", WITHOUT_A_PLAN[2] + "work d;gives b v 9;?"};
+        for (String text : WITHOUT_A_PLAN) {
+            for (Map.Entry<String, Call> asked : ASKED.entrySet()) {
+                String due = "" + asked.getValue().answer(Check.of(text));
+                for (String other : wrong) {
+                    WasteBrook x = Check.of(text);
+                    CHECK.yes("a FAULT", Check.brook(x, other) < 0);
+                    CHECK.same(asked.getKey() + " behind a FAULT of " + other, "" + asked.getValue().answer(x), due);
+                    Check.brook(x, other);
+                    x.image(1);
+                    Check.brook(x, NEXT);
+                    x.restore(1);
+                    CHECK.same(asked.getKey() + " as kept behind a FAULT of " + other, "" + asked.getValue().answer(x), due);
+                }
+                for (String other : new String[] {"", NEXT, NOW, FIRST}) {
+                    WasteBrook x = Check.of(text);
+                    x.image(0);
+                    Check.brook(x, other);
+                    x.restore(0);
+                    CHECK.same(asked.getKey() + " restored behind " + other, "" + asked.getValue().answer(x), due);
+                }
+            }
+            WasteBrook begun = Check.of(text);
+            Check.brook(begun, wrong[1]);
+            begun.begin();
+            begun.on(15);
+            CHECK.same("a RUN of it behind a FAULT", run(begun), run(Check.run(text, 15)));
+        }
     }
 }
