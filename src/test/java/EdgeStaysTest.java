@@ -20,7 +20,8 @@ public final class EdgeStaysTest {
         + "feeds b v 2;work c 3 8;takes c v 1 5 0;makes c 4;joined;",
         "good w 0;good v 0;work a 3 5;takes a v 1 9 1;work b;takes b w 1 9 0;work c 1 1;takes c v 1 9 1;gives c w 1;joined;",
         "good w 0;good v 0;work a;takes a v 9 9 1;work b;takes b w 9 9 1;work c;takes c v 9 9 0;",
-        "good w 0;good v 0;work a;takes a v 9 9 0;work b;feeds b w 1;takes b w 2 9 0;makes b 1;work c;takes c v 9 9 0;"};
+        "good w 0;good v 0;work a;takes a v 9 9 0;work b;feeds b w 1;takes b w 2 9 0;makes b 1;work c;takes c v 9 9 0;",
+        "good w 0;good v 0;work a;takes a v 9 9 0;work b;feeds b w 1;takes b w 2 9 9;makes b 1;work c;takes c v 9 9 0;"};
 
     /** A call that is tried. */
     interface Call {
